@@ -1,7 +1,7 @@
 /**
  * The firmware of a keyboard without diodes. A scan goes through the parts in this order: Matrix
- * (which keys are read, seen and believed), Queue (the events not taken yet), then what taking them
- * does to Layers and Reports, as Keymap and Chords say.
+ * (which keys are read, seen and believed), EventQueue (the events not taken yet), then what taking
+ * them does to Layers and Reports, as Keymap and Chords say.
  *
  * A set of keys is an int with bit k for key k; an event is an int, 2 * key + 1 for a press and
  * 2 * key for a release.
@@ -36,7 +36,7 @@ public final class GhostKeys {
 
     private final Matrix matrix;
     private final History past;
-    private final Queue queue;
+    private final EventQueue queue;
     private final Keymap keymap;
     private final Chords chords;
     private final Layers layers;
@@ -48,7 +48,7 @@ public final class GhostKeys {
     public GhostKeys() {
         matrix = new Matrix();
         past = new History();
-        queue = new Queue();
+        queue = new EventQueue();
         keymap = new Keymap();
         chords = new Chords();
         layers = new Layers();
@@ -210,7 +210,7 @@ public final class GhostKeys {
         int events = bringEvents();
         boolean decided = true;
         // Each round takes at least one event, so the queue's room bounds the rounds.
-        for (int i = 0; decided && i < Queue.ROOM; i++) {
+        for (int i = 0; decided && i < EventQueue.ROOM; i++) {
             decided = takeFirst();
         }
         now++;
@@ -281,8 +281,8 @@ public final class GhostKeys {
         int key = queue.keyAt(0);
         int layer = keymap.topLayer(key, layers);
         int kind = keymap.kind(layer, key);
-        int tap = kind == TAP ? tellTap() : Queue.UNTOLD;
-        if (kind == TAP && tap == Queue.UNTOLD) {
+        int tap = kind == TAP ? tellTap() : EventQueue.UNTOLD;
+        if (kind == TAP && tap == EventQueue.UNTOLD) {
             return false;
         }
         queue.removeFirst(1);
@@ -319,11 +319,11 @@ public final class GhostKeys {
     private int tellTap() {
         int told = queue.tellTap();
         boolean tooLong = now >= queue.scanAt(0) + TAP_SPAN || queue.length() > PATIENCE;
-        return told == Queue.UNTOLD && tooLong ? Queue.TOLD_HELD : told;
+        return told == EventQueue.UNTOLD && tooLong ? EventQueue.TOLD_HELD : told;
     }
 
     private void actTap(int key, int layer, int tap) {
-        if (tap == Queue.TOLD_HELD) {
+        if (tap == EventQueue.TOLD_HELD) {
             layers.hold(keymap.b(layer, key), key);
         } else {
             int code = keymap.a(layer, key);
@@ -444,23 +444,25 @@ public final class GhostKeys {
         private static final int ROOM = 32;
 
         private final int[] events = new int[ROOM];
-        private int brought;
+        private int next;
+        private int kept;
 
         void add(int event) {
-            events[brought % ROOM] = event;
-            brought++;
+            events[next] = event;
+            next = (next + 1) % ROOM;
+            kept = Math.min(kept + 1, ROOM);
         }
 
         int latest(int i) {
-            if (i < 0 || i >= ROOM || i >= brought) {
+            if (i < 0 || i >= kept) {
                 return NONE;
             }
-            return events[(brought - 1 - i) % ROOM];
+            return events[(next + ROOM - 1 - i) % ROOM];
         }
     }
 
     /** The events that are not taken yet, with the scans that brought them. */
-    private static final class Queue {
+    private static final class EventQueue {
         static final int UNTOLD = 0;
         static final int TOLD_TAP = 1;
         static final int TOLD_HELD = 2;
@@ -620,7 +622,7 @@ public final class GhostKeys {
         }
 
         /** The chord with most keys that are just the first ones of the row; NONE if there is none. */
-        int longestAtStart(Queue queue, int row) {
+        int longestAtStart(EventQueue queue, int row) {
             int best = NONE;
             int most = 0;
             for (int i = 0; i < CHORDS; i++) {

@@ -23,11 +23,16 @@ public final class ModelTest {
     private final GhostKeys x = new GhostKeys();
     private final Model model = new Model();
     private final String name;
+    /** The action that keys mostly have in this run, and how many of 100 wirings are on. */
+    private final int favourite;
+    private final int wiredOn;
 
     private ModelTest(int run) {
         random = new Random(run);
         keys = KEY_SETS[run % KEY_SETS.length];
         name = "run " + run;
+        favourite = random.nextInt(7);
+        wiredOn = 45 + random.nextInt(45);
     }
 
     public static void main(String[] args) {
@@ -38,10 +43,15 @@ public final class ModelTest {
     }
 
     private void play() {
-        for (int i = 0; i < 25; i++) {
+        for (int key : keys) {
+            int a = favourite == GhostKeys.CODE || favourite == GhostKeys.TAP ? someCode() : 1 + random.nextInt(3);
+            x.map(0, key, favourite, a, 1);
+            model.map(0, key, favourite, a, 1);
+        }
+        for (int i = random.nextInt(25); i > 0; i--) {
             mapOne();
         }
-        for (int i = 0; i < 4; i++) {
+        for (int i = random.nextInt(6); i > 0; i--) {
             chordOne();
             macroOne();
         }
@@ -57,7 +67,7 @@ public final class ModelTest {
         int dice = random.nextInt(100);
         if (dice < 40) {
             int key = someKey();
-            boolean on = random.nextInt(100) < 55;
+            boolean on = random.nextInt(100) < wiredOn;
             same(i, "wire " + key + on, () -> done(() -> x.wire(key, on)), () -> done(() -> model.wire(key, on)));
         } else if (dice < 70) {
             int many = random.nextInt(10) == 0 ? random.nextInt(104) - 1 : 1 + random.nextInt(7);
@@ -71,19 +81,31 @@ public final class ModelTest {
             int pattern = random.nextInt(20) == 0 ? random.nextInt(600) - 200 : random.nextInt(256);
             same(i, "bounce " + key + ", " + pattern,
                     () -> done(() -> x.bounce(key, pattern)), () -> done(() -> model.bounce(key, pattern)));
-        } else if (dice < 96) {
+        } else if (dice < 91) {
             mapOne();
-        } else if (dice < 98) {
+        } else if (dice < 92) {
             macroOne();
-        } else {
+        } else if (dice < 94) {
             chordOne();
+        } else {
+            wireSeveral(i);
+        }
+    }
+
+    private void wireSeveral(int i) {
+        boolean on = random.nextInt(100) < wiredOn;
+        for (int key : keys) {
+            if (random.nextInt(3) != 0) {
+                same(i, "wire " + key + on, () -> done(() -> x.wire(key, on)), () -> done(() -> model.wire(key, on)));
+            }
         }
     }
 
     private void mapOne() {
         int layer = random.nextInt(40) == 0 ? random.nextInt(8) - 2 : random.nextInt(4);
         int key = someKey();
-        int kind = random.nextInt(40) == 0 ? random.nextInt(12) - 2 : random.nextInt(7);
+        int kind = random.nextInt(40) == 0 ? random.nextInt(12) - 2
+                : random.nextBoolean() ? favourite : random.nextInt(7);
         boolean wantsCode = kind == GhostKeys.CODE || kind == GhostKeys.TAP;
         int a = random.nextInt(40) == 0 ? random.nextInt(130) - 5 : wantsCode ? someCode() : 1 + random.nextInt(3);
         int b = random.nextInt(40) == 0 ? random.nextInt(10) - 3 : 1 + random.nextInt(3);
@@ -137,7 +159,7 @@ public final class ModelTest {
 
     /** Few codes, so that several keys hold the same one; modifiers are among them. */
     private int someCode() {
-        return random.nextInt(4) == 0 ? 100 + random.nextInt(8) : 4 + random.nextInt(96) / 8 * 8;
+        return random.nextInt(5) == 0 ? 100 + random.nextInt(8) : 4 + random.nextInt(96) / 5 * 5;
     }
 
     private void same(int i, String what, LongSupplier got, LongSupplier want) {

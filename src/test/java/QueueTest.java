@@ -133,6 +133,16 @@ public final class QueueTest {
         Check.due("its release decides", x.queued(), 0);
         Check.report("down", x, 0, 20);
         Check.report("up", x, 0);
+        GhostKeys y = twoCodesAndAChord();
+        Check.press(y, 1);
+        y.scans(9);
+        Check.report("1 by its action", y, 0, 21);
+        Check.press(y, 0);
+        Check.due("0 waits", y.queued(), 1);
+        Check.release(y, 1);
+        Check.due("the release of 1 decides", y.queued(), 0);
+        Check.report("0 by its action, not the chord", y, 0, 20, 21);
+        Check.report("1 is let go", y, 0, 20);
     }
 
     private static void chordReleases() {
@@ -150,6 +160,10 @@ public final class QueueTest {
             Check.due("the other release does nothing", x.waiting(), 0);
             Check.release(x, first);
             Check.report("its own release does", x, 0);
+            Check.press(x, 0, 1);
+            Check.report("the chord anew", x, 0, 60);
+            Check.release(x, 0, 1);
+            Check.report("and let go", x, 0);
         }
     }
 
@@ -171,6 +185,12 @@ public final class QueueTest {
         Check.press(x, 0, 1, 2, 3);
         Check.due("all four at once", x.queued(), 0);
         Check.report("the four", x, 0, 62);
+        GhostKeys y = new GhostKeys();
+        y.chord(0, 7, 61);
+        y.chord(1, 3, 60);
+        Check.press(y, 0, 1, 2);
+        Check.report("the three, whatever their number", y, 0, 61);
+        Check.due("that is all", y.waiting(), 0);
     }
 
     private static void chordThenOthers() {
@@ -378,5 +398,13 @@ public final class QueueTest {
         Check.due("then it waits as a tap", x.queued(), 1);
         x.scan();
         Check.due("held", x.on(1), true);
+        GhostKeys y = tapAndCodes();
+        y.chord(0, 0b100001, 60);
+        Check.press(y, 5);
+        y.scans(5);
+        Check.press(y, 0);
+        Check.due("s + 10 is too late for the chord, so the tap waits", y.queued(), 2);
+        Check.release(y, 0);
+        Check.report("held by the other", y, 0, 50);
     }
 }
