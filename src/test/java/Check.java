@@ -24,18 +24,18 @@ final class Check {
     }
 
     static void index(String what, Call call) {
-        dueThrow(what, call, IndexOutOfBoundsException.class);
+        refused(what, call, IndexOutOfBoundsException.class);
     }
 
     static void argument(String what, Call call) {
-        dueThrow(what, call, IllegalArgumentException.class);
+        refused(what, call, IllegalArgumentException.class);
     }
 
     static void state(String what, Call call) {
-        dueThrow(what, call, IllegalStateException.class);
+        refused(what, call, IllegalStateException.class);
     }
 
-    private static void dueThrow(String what, Call call, Class<? extends RuntimeException> want) {
+    static void refused(String what, Call call, Class<? extends RuntimeException> want) {
         checks++;
         try {
             call.run();
