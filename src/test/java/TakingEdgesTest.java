@@ -5,11 +5,14 @@ public final class TakingEdgesTest {
         eachReasonEndsAlone();
         topOfEverySetOfLayers();
         layerHeldByEachKey();
+        layerHeldByTwoKeys();
         releasesBringOnlyTheirOwnEnd();
         firstReleaseOfAChord();
         chordPressedAnewBeforeItsLastRelease();
         rowUpToNineScans();
+        rowUpToNineScansOfItsFirst();
         rowEndsAtARelease();
+        releaseIsNoPressOfTheRow();
         waitingBelowNineScans();
         waitingForAThirdKey();
         waitingOnlyForOthers();
@@ -23,8 +26,10 @@ public final class TakingEdgesTest {
         releaseInTheTwentiethScan();
         eightAndNineEvents();
         manyEventsInOneScan();
+        sixteenEventsInTheQueue();
         ninthEventMayBeTheRelease();
         firstReleaseTells();
+        anyPressBehindTells();
         releaseOfAnOlderPressDoesNotTell();
         tapsReleaseDoesNothing();
         secondTapWaitsByItsOwnTime();
@@ -136,6 +141,24 @@ public final class TakingEdgesTest {
         }
     }
 
+    private static void layerHeldByTwoKeys() {
+        for (int first = 0; first < 2; first++) {
+            for (int let = 0; let < 2; let++) {
+                GhostKeys x = allForLayerOne();
+                x.map(0, 5, GhostKeys.TAP, 30, 1);
+                int[] keys = {HELD_KEY, 5};
+                Check.press(x, keys[first]);
+                x.scans(20);
+                Check.press(x, keys[1 - first]);
+                x.scans(20);
+                Check.release(x, keys[let]);
+                Check.due("the other key holds it", x.on(1), true);
+                Check.release(x, keys[1 - let]);
+                Check.due("no key holds it", x.on(1), false);
+            }
+        }
+    }
+
     /** "TAKING a RELEASE ends what its press began", and nothing that another press began. */
     private static void releasesBringOnlyTheirOwnEnd() {
         GhostKeys x = allForLayerOne();
@@ -230,6 +253,23 @@ public final class TakingEdgesTest {
         }
     }
 
+    /** s is the scan of the row's first press, not of the one in front of each. */
+    private static void rowUpToNineScansOfItsFirst() {
+        for (int gap = 4; gap <= 5; gap++) {
+            GhostKeys x = codesAndChord();
+            x.chord(0, 0b111, 60);
+            x.map(0, 5, GhostKeys.TAP, 30, 1);
+            x.wire(5, true);
+            x.scan();
+            for (int key = 0; key <= 2; key++) {
+                x.wire(key, true);
+                x.scans(key == 0 ? 5 : gap);
+            }
+            x.scans(30);
+            Check.report("the third press in s + " + (5 + gap), x, 0, gap == 4 ? 60 : 20);
+        }
+    }
+
     /** "the events directly behind it, as long as they are presses". */
     private static void rowEndsAtARelease() {
         GhostKeys x = codesAndChord();
@@ -247,6 +287,19 @@ public final class TakingEdgesTest {
         Check.report("no chord over a release", x, 0, 20, 22);
         Check.report("the release", x, 0, 20);
         Check.report("the other press", x, 0, 20, 21);
+    }
+
+    private static void releaseIsNoPressOfTheRow() {
+        GhostKeys x = codesAndChord();
+        Check.press(x, 1);
+        x.scans(9);
+        Check.report("1 alone", x, 0, 21);
+        Check.press(x, 0);
+        Check.due("0 waits", x.queued(), 1);
+        Check.release(x, 1);
+        Check.report("0 by its action", x, 0, 20, 21);
+        Check.report("1 is let go", x, 0, 20);
+        Check.due("no chord", x.waiting(), 0);
     }
 
     /** "NOW is below s + 9". */
@@ -531,6 +584,34 @@ public final class TakingEdgesTest {
         Check.due("the last one", y.report(5), 54);
     }
 
+    /** Fifteen events of one scan behind one that waits: each finds its place in the queue. */
+    private static void sixteenEventsInTheQueue() {
+        int[] old = {0, 1, 2, 3, 4, 11, 17};
+        int[] young = {5, 6, 7, 8, 9, 16, 22};
+        GhostKeys x = new GhostKeys();
+        x.map(0, 23, GhostKeys.TAP, 30, 1);
+        for (int i = 0; i < 7; i++) {
+            x.map(0, old[i], GhostKeys.CODE, 40 + i, 0);
+            x.map(0, young[i], GhostKeys.CODE, 101 + i, 0);
+        }
+        Check.due("the older presses", Check.press(x, old), 7);
+        Check.due("the tap's press", Check.press(x, 23), 1);
+        for (int key : young) {
+            x.wire(key, true);
+        }
+        x.wire(23, false);
+        Check.due("releases and presses", Check.release(x, old), 15);
+        Check.due("all are taken", x.queued(), 0);
+        Check.drain(x);
+        Check.due("no older code is down", x.report(1), 0);
+        Check.due("all young ones are", x.report(0), 254);
+        Check.due("no layer", x.on(1), false);
+        int[] due = {46, 45, 34, 33, 22, 19, 17, 15, 13, 11, 8, 6, 4, 2, 0, 47, 35};
+        for (int i = 0; i < due.length; i++) {
+            Check.due("history " + i, x.history(i), due[i]);
+        }
+    }
+
     /** An event that tells goes before the number of events: a tap, though there are nine. */
     private static void ninthEventMayBeTheRelease() {
         GhostKeys x = tapAndFiveEvents();
@@ -567,6 +648,18 @@ public final class TakingEdgesTest {
         Check.due("one scan: 0 is in front of 5, so it is an older press", z.queued(), 1);
         Check.release(z, 0);
         Check.due("its release does not tell", z.queued(), 2);
+    }
+
+    private static void anyPressBehindTells() {
+        for (int told = 0; told < 3; told++) {
+            GhostKeys x = tapAndCodes();
+            Check.press(x, 5);
+            Check.press(x, 0, 1, 2);
+            Check.due("four presses", x.queued(), 4);
+            Check.release(x, told);
+            Check.due("the release of the press " + told + " behind it", x.queued(), 0);
+            Check.due("held", x.on(1), true);
+        }
     }
 
     /** "a release of another key whose press is behind it, too". */
